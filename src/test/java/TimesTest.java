@@ -7,6 +7,7 @@ public final class TimesTest {
         back();
         backOverBack();
         backInIndexes();
+        backManyTimes();
         purge();
         purgeAndIndexes();
         changes();
@@ -97,6 +98,23 @@ public final class TimesTest {
         Check.due("in the row's order", 3, () -> x.next(0));
         Check.due("in the row's order", 5, () -> x.next(0));
         Check.due("none", -1, () -> x.next(0));
+    }
+
+    /** More changes in all than can lie between marks: those without a mark before them are forgotten. */
+    private static void backManyTimes() {
+        FactKeeper x = new FactKeeper();
+        x.table(1);
+        for (int i = 0; i < 100; i++) {
+            x.add(0, i % 2);
+        }
+        for (int i = 0; i < 65; i++) {
+            x.mark();
+            x.remove(0, 0, 1);
+            Check.due("back, round " + i, 100, () -> x.back(true));
+            Check.due("purge, round " + i, 100, () -> x.purge(-1));
+        }
+        Check.due("there", 100, () -> x.count(10));
+        Check.due("numbers", 6600, () -> x.add(0, 0));
     }
 
     private static void purge() {
