@@ -963,10 +963,10 @@ public final class FactKeeper {
             take('t');
             int first = at;
             int number = readDigits();
-            if (at == first) {
-                refuse(at);
+            if (at == first || at - first > MOST_DIGITS) {
+                refuse(first);
             }
-            Table table = at - first > MOST_DIGITS ? null : store.tableAt(number);
+            Table table = store.tableAt(number);
             if (table == null) {
                 refuse(start);
             }

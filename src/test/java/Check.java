@@ -10,14 +10,17 @@ final class Check {
     private Check() {
     }
 
-    static void due(String call, int want, Call asked) {
-        String got;
+    /** What was answered, or what was thrown. */
+    static String answer(Call asked) {
         try {
-            got = String.valueOf(asked.answer());
+            return String.valueOf(asked.answer());
         } catch (RuntimeException e) {
-            got = e.toString();
+            return e.toString();
         }
-        note(call, String.valueOf(want), got);
+    }
+
+    static void due(String call, int want, Call asked) {
+        note(call, String.valueOf(want), answer(asked));
     }
 
     /** The very class is due, not one below it: the machine's own exceptions are below some of them. */

@@ -3,7 +3,12 @@ public final class CountTest {
     public static void main(String[] args) {
         counts();
         lookedAt();
+        lookedAtStaysBehindOneThatThrew();
+        lookedAtOfTooMany();
         places();
+        placeOfTheLatestAlone();
+        variables();
+        thereNowOfEachTable();
         wrong();
         Check.finish("CountTest");
     }
@@ -58,6 +63,107 @@ public final class CountTest {
         Check.due("not by one that threw", 9, () -> x.count(5));
         x.close(0);
         Check.due("not by close", 9, () -> x.count(5));
+    }
+
+    // "by the latest find, many, remove, next or question (that threw nothing"
+    private static void lookedAtStaysBehindOneThatThrew() {
+        FactKeeper x = new FactKeeper();
+        x.table(1);
+        for (int i = 0; i < 5; i++) {
+            Check.behind(x, 0, i);
+        }
+        x.open(0, 0, -1);
+        x.many(0, 0, -1);
+        Check.thrown("find", IllegalArgumentException.class, () -> x.find(0, 0, 6));
+        Check.thrown("many", java.util.NoSuchElementException.class, () -> x.many(1, 0, -1));
+        Check.thrown("remove", IllegalArgumentException.class, () -> x.remove(0, 0, 2));
+        Check.thrown("next", java.util.NoSuchElementException.class, () -> x.next(1));
+        Check.thrown("next", IllegalArgumentException.class, () -> x.next(10));
+        Check.thrown("question", IllegalArgumentException.class, () -> Check.ask(x, "t0(A)", 6));
+        Check.thrown("question", UnsupportedOperationException.class, () -> Check.ask(x, "t0(A),t0(B),t1(C)"));
+        Check.due("of many yet", 5, () -> x.count(5));
+        x.next(0);
+        Check.due("of next", 1, () -> x.count(5));
+        Check.solved(x, "1<2", 1, 0);
+    }
+
+    // "of question, ArithmeticException: 50001 then"
+    private static void lookedAtOfTooMany() {
+        FactKeeper x = new FactKeeper();
+        x.table(1);
+        for (int i = 0; i < 40; i++) {
+            x.add(0, 0);
+        }
+        Check.thrown("too many", ArithmeticException.class, () -> Check.ask(x, "t0(A),t0(B),t0(C)"));
+        Check.due("one more than may be", 50001, () -> x.count(5));
+        Check.broken(x, "?", 0);
+        Check.due("one more than may be, yet", 50001, () -> x.count(5));
+        x.find(0, 0, -1);
+        Check.due("of find", 1, () -> x.count(5));
+    }
+
+    // "PLACE of the latest question that was broken, -1 if the latest was not, or before"
+    private static void placeOfTheLatestAlone() {
+        FactKeeper x = new FactKeeper();
+        x.table(1);
+        for (int i = 0; i < 40; i++) {
+            x.add(0, 0);
+        }
+        Check.due("before", -1, () -> x.count(6));
+        Check.broken(x, "t0(A)?", 5);
+        x.find(0, 0, -1);
+        x.mark();
+        Check.thrown("find", IllegalArgumentException.class, () -> x.find(0, 0, 99));
+        Check.due("yet", 5, () -> x.count(6));
+        Check.broken(x, "?", 0);
+        Check.solved(x, "t0(A)", 40, 40);
+        Check.broken(x, "t0(A),", 6);
+        Check.thrown("too many", ArithmeticException.class, () -> Check.ask(x, "t0(A),t0(B),t0(C)"));
+        Check.due("the latest was not broken", -1, () -> x.count(6));
+        Check.broken(x, "t0(A,", 5);
+        Check.thrown("at no time", IllegalArgumentException.class, () -> Check.ask(x, "t0(A,", 99));
+        Check.due("the latest was not read", -1, () -> x.count(6));
+    }
+
+    // "VARIABLES of the latest question that threw nothing"
+    private static void variables() {
+        FactKeeper x = new FactKeeper();
+        x.table(2);
+        Check.due("before", 0, () -> x.count(9));
+        String[] texts = {"1<2", "t0(A,_)", "t0(A,A)", "t0(H,A)", "!t0(A,B)", "A:1+1,B:A+A,t0(A,C)", "t0(A,B),t0(C,D)"};
+        int[] due = {0, 1, 1, 2, 0, 3, 4};
+        for (int i = 0; i < texts.length; i++) {
+            String text = texts[i];
+            Check.answer(() -> Check.ask(x, text));
+            Check.due(text + " variables", due[i], () -> x.count(9));
+            Check.broken(x, "t0(A,B),t0(C,D),t0(E,F),t0(G,H),", 32);
+            Check.due(text + " variables yet", due[i], () -> x.count(9));
+            Check.thrown("at no time", IllegalArgumentException.class, () -> Check.ask(x, "t0(G,H)", 1));
+            Check.due(text + " variables yet", due[i], () -> x.count(9));
+        }
+    }
+
+    // "10 ..: FACTS of TABLE what - 10 that ARE THERE now (-1: no such TABLE), up to 21"
+    private static void thereNowOfEachTable() {
+        FactKeeper x = new FactKeeper();
+        for (int t = 0; t < 12; t++) {
+            int what = 10 + t;
+            Check.due("no such table", -1, () -> x.count(what));
+            x.table(1);
+            Check.due("none", 0, () -> x.count(what));
+            for (int i = 0; i <= t; i++) {
+                x.add(t, i % 2);
+            }
+            x.remove(t, 0, 0);
+            Check.due("all but one", t, () -> x.count(what));
+        }
+        for (int t = 0; t < 12; t++) {
+            int there = t;
+            Check.due("of table " + t, there, () -> x.count(10 + there));
+        }
+        Check.thrown("up to 21", IllegalArgumentException.class, () -> x.count(22));
+        Check.due("tables", 12, () -> x.count(1));
+        Check.due("kept", 78, () -> x.count(3));
     }
 
     private static void places() {

@@ -4,11 +4,17 @@ import java.util.NoSuchElementException;
 public final class FactsTest {
     public static void main(String[] args) {
         add();
+        addWithKeys();
         addFull();
         remove();
+        removeWithout();
+        removeInTheRowsOrder();
         findAndMany();
         wrongLooks();
         cursors();
+        cursorsKeepTheirValuesAndTime();
+        theLeastFreeCursor();
+        closeTellsHowMany();
         cursorsAndIndexes();
         wrongCursors();
         fact();
@@ -36,6 +42,29 @@ public final class FactsTest {
         Check.thrown("the same in a key", UnsupportedOperationException.class, () -> x.add(0, 1));
         Check.due("a thrown add changes nothing", 3, () -> x.count(3));
         Check.due("the next number", 3, () -> Check.behind(x, 0, 8, 1));
+    }
+
+    // "one that is there has the same in a KEY: UnsupportedOperationException"
+    private static void addWithKeys() {
+        FactKeeper x = new FactKeeper();
+        x.table(3);
+        x.key(0, 3);
+        x.key(0, 4);
+        Check.due("the first", 0, () -> Check.behind(x, 0, 1, 1, 1));
+        Check.due("the same in one column of two", 1, () -> Check.behind(x, 0, 1, 2, 2));
+        Check.due("the same in the other", 2, () -> Check.ahead(x, 0, 2, 1, 3));
+        Check.values(x, 1, 1, 9);
+        Check.thrown("the same in both", UnsupportedOperationException.class, () -> x.add(0, 0));
+        Check.thrown("ahead, too", UnsupportedOperationException.class, () -> x.add(0, 1));
+        Check.values(x, 9, 9, 3);
+        Check.thrown("the same in the 2nd key", UnsupportedOperationException.class, () -> x.add(0, 0));
+        x.remove(0, 4, 0);
+        Check.due("it went", 3, () -> x.add(0, 0));
+        Check.thrown("it is there again", UnsupportedOperationException.class, () -> x.add(0, 0));
+        for (int ahead : new int[] {-1, 2, Integer.MIN_VALUE, Integer.MAX_VALUE}) {
+            Check.thrown("ahead " + ahead, IllegalArgumentException.class, () -> x.add(0, ahead));
+        }
+        Check.thrown("no table before a key", NoSuchElementException.class, () -> x.add(1, 0));
     }
 
     /** 3000 facts by going back again and again, which takes fewer calls than adding each. */
@@ -98,6 +127,46 @@ public final class FactsTest {
         Check.thrown("mask -1", IllegalArgumentException.class, () -> x.remove(0, -1, 0));
         Check.thrown("no table", NoSuchElementException.class, () -> x.remove(1, 0, 0));
         Check.due("looked at stays", 6, () -> x.count(5));
+    }
+
+    // "-1 without"; "all such go, .. how many"
+    private static void removeWithout() {
+        FactKeeper x = new FactKeeper();
+        x.table(2);
+        Check.due("the first of none", -1, () -> x.remove(0, 0, 0));
+        Check.due("all of none", 0, () -> x.remove(0, 0, 1));
+        Check.behind(x, 0, 1, 1);
+        Check.values(x, 2, 1);
+        Check.due("none fits", -1, () -> x.remove(0, 1, 0));
+        Check.due("none fits", 0, () -> x.remove(0, 1, 1));
+        Check.due("time", 1, () -> x.count(2));
+        Check.due("the only one", 0, () -> x.remove(0, 2, 0));
+        Check.due("it went", -1, () -> x.remove(0, 2, 0));
+        Check.due("none is there", 0, () -> x.remove(0, 0, 1));
+        Check.due("time", 2, () -> x.count(2));
+        for (int all : new int[] {-1, 2, Integer.MIN_VALUE, Integer.MAX_VALUE}) {
+            Check.thrown("all " + all, IllegalArgumentException.class, () -> x.remove(0, 0, all));
+        }
+    }
+
+    // "all 1: all such go, in the ROW'S order: how many"
+    private static void removeInTheRowsOrder() {
+        FactKeeper x = new FactKeeper();
+        x.table(1);
+        x.index(0, 0);
+        Check.behind(x, 0, 1);
+        Check.ahead(x, 0, 1);
+        Check.ahead(x, 0, 2);
+        Check.behind(x, 0, 1);
+        Check.ahead(x, 0, 1);
+        Check.values(x, 1);
+        Check.due("the first of the row", 4, () -> x.remove(0, 1, 0));
+        Check.due("the others", 3, () -> x.remove(0, 1, 1));
+        int[] died = {8, 7, -1, 9, 6};
+        for (int number = 0; number < 5; number++) {
+            int asked = number;
+            Check.due("died " + number, died[number], () -> x.fact(asked, 6));
+        }
     }
 
     private static void findAndMany() {
@@ -174,6 +243,83 @@ public final class FactsTest {
         Check.due("no more at 1", -1, () -> x.next(0));
         Check.due("none at 0", -1, () -> x.next(2));
         Check.due("told one", 1, () -> x.close(0));
+    }
+
+    // "for FACTS that FIT with the VALUES as they are now and ARE THERE at T"; "in the ROW as it is now"
+    private static void cursorsKeepTheirValuesAndTime() {
+        FactKeeper x = new FactKeeper();
+        x.table(2);
+        Check.behind(x, 0, 1, 1);
+        Check.behind(x, 0, 2, 1);
+        Check.behind(x, 0, 1, 2);
+        Check.values(x, 1, 1);
+        x.open(0, 1, -1);
+        x.open(0, 1, 2);
+        x.open(0, 15, -1);
+        x.open(0, 0, 0);
+        Check.ahead(x, 0, 1, 1);
+        Check.behind(x, 0, 1, 1);
+        Check.values(x, 2, 2);
+        x.remove(0, 0, 1);
+        x.value(0, 9);
+        nextOnes(x, 0, 0, 2, -1, -1);
+        nextOnes(x, 1, 0, -1, -1);
+        nextOnes(x, 2, 0, -1, -1);
+        nextOnes(x, 3, -1, -1);
+        Check.values(x, 1, 1);
+        Check.due("a new one sees none now", 4, () -> x.open(0, 0, -1));
+        nextOnes(x, 4, -1);
+        Check.due("and those of then", 5, () -> x.open(0, 1, 5));
+        nextOnes(x, 5, 3, 0, 2, 4, -1);
+    }
+
+    private static void nextOnes(FactKeeper x, int cursor, int... due) {
+        for (int one : due) {
+            Check.due("next(" + cursor + ")", one, () -> x.next(cursor));
+        }
+    }
+
+    // "the least number 0 .. 9 that is free; none: IllegalStateException"
+    private static void theLeastFreeCursor() {
+        FactKeeper x = new FactKeeper();
+        x.table(1);
+        for (int i = 0; i < 10; i++) {
+            int number = i;
+            Check.thrown("not open yet", NoSuchElementException.class, () -> x.next(number));
+            Check.due("open", number, () -> x.open(0, 0, -1));
+            Check.due("cursors", number + 1, () -> x.count(7));
+            Check.due("it is there", -1, () -> x.next(number));
+        }
+        Check.thrown("none is free", IllegalStateException.class, () -> x.open(0, 0, -1));
+        for (int free : new int[] {9, 0, 5}) {
+            x.close(free);
+            Check.thrown("it went", NoSuchElementException.class, () -> x.close(free));
+            Check.due("free again", free, () -> x.open(0, 0, -1));
+        }
+        x.close(7);
+        x.close(2);
+        x.close(4);
+        Check.due("the least", 2, () -> x.open(0, 0, -1));
+        Check.due("then the next", 4, () -> x.open(0, 0, -1));
+        Check.due("then the last", 7, () -> x.open(0, 0, -1));
+        Check.thrown("none is free again", IllegalStateException.class, () -> x.open(0, 0, -1));
+        Check.due("cursors", 10, () -> x.count(7));
+    }
+
+    // "Answers how many FACTS it told."
+    private static void closeTellsHowMany() {
+        FactKeeper x = new FactKeeper();
+        x.table(1);
+        for (int i = 0; i < 3; i++) {
+            x.add(0, 0);
+        }
+        for (int asked = 0; asked <= 5; asked++) {
+            x.open(0, 0, -1);
+            for (int i = 0; i < asked; i++) {
+                x.next(0);
+            }
+            Check.due("told of " + asked, Math.min(asked, 3), () -> x.close(0));
+        }
     }
 
     private static void cursorsAndIndexes() {

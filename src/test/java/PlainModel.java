@@ -555,13 +555,13 @@ final class PlainModel {
         int start = read;
         sign("t");
         String digits = digits();
-        if (digits.isEmpty()) {
-            throw new Broken(read);
-        }
-        if (digits.length() > 9 || Integer.parseInt(digits) >= tables.size()) {
-            throw new Broken(start);
+        if (digits.isEmpty() || digits.length() > 9) {
+            throw new Broken(start + 1);
         }
         int number = Integer.parseInt(digits);
+        if (number >= tables.size()) {
+            throw new Broken(start);
+        }
         List<String> args = new ArrayList<>();
         sign("(");
         do {

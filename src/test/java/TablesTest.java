@@ -9,7 +9,12 @@ public final class TablesTest {
         value();
         table();
         index();
+        indexOfEachColumn();
+        indexFromNowOn();
         key();
+        keyMasks();
+        threeKeysOfEachTable();
+        keyOfTwoThatHaveTheSame();
         keyAfterBack();
         Check.finish("TablesTest");
     }
@@ -127,6 +132,45 @@ public final class TablesTest {
         lookedAt(x, "none, though it may share a place", 1, 0, 0);
     }
 
+    // "COLUMN k of TABLE t (it is none: IllegalArgumentException"; "Answers 1, 0 if it had."
+    private static void indexOfEachColumn() {
+        FactKeeper x = new FactKeeper();
+        for (int columns = 1; columns <= 4; columns++) {
+            int t = x.table(columns);
+            for (int k : new int[] {-1, columns, 4, 5, Integer.MIN_VALUE, Integer.MAX_VALUE}) {
+                Check.thrown("index " + k + " of " + columns, IllegalArgumentException.class, () -> x.index(t, k));
+            }
+            for (int k = columns - 1; k >= 0; k--) {
+                int column = k;
+                Check.due("index " + k + " of " + columns, 1, () -> x.index(t, column));
+                Check.due("index again", 0, () -> x.index(t, column));
+            }
+        }
+        Check.thrown("behind the last table", NoSuchElementException.class, () -> x.index(4, 0));
+    }
+
+    // "has an INDEX from now on": over the facts that were, those that come, and behind a purge
+    private static void indexFromNowOn() {
+        FactKeeper x = new FactKeeper();
+        x.table(1);
+        Check.behind(x, 0, 1);
+        Check.behind(x, 0, 2);
+        Check.ahead(x, 0, 1);
+        Check.values(x, 1);
+        lookedAt(x, "before", 1, 2, 3);
+        x.remove(0, 1, 0);
+        x.index(0, 0);
+        lookedAt(x, "one that went is in it", 1, 1, 2);
+        Check.ahead(x, 0, 1);
+        Check.behind(x, 0, 1);
+        lookedAt(x, "those that came since, too", 1, 3, 4);
+        x.purge(-1);
+        lookedAt(x, "one that is not kept is not", 1, 3, 3);
+        Check.due("the first", 3, () -> x.find(0, 1, -1));
+        Check.values(x, 2);
+        lookedAt(x, "the other", 1, 1, 1);
+    }
+
     private static void lookedAt(FactKeeper x, String why, int mask, int many, int lookedAt) {
         Check.due(why, many, () -> x.many(0, mask, -1));
         Check.due(why + ", looked at", lookedAt, () -> x.count(5));
@@ -161,6 +205,81 @@ public final class TablesTest {
         Check.behind(y, 0, 4);
         y.remove(0, 0, 0);
         Check.due("those that went are not asked", 1, () -> y.key(0, 1));
+    }
+
+    // "mask 1 .. 15 of COLUMNS of TABLE t alone (else IllegalArgumentException, behind NoSuchElementException)"
+    private static void keyMasks() {
+        for (int columns = 1; columns <= 4; columns++) {
+            for (int mask = -1; mask <= 17; mask++) {
+                FactKeeper x = new FactKeeper();
+                int t = x.table(columns);
+                int asked = mask;
+                String said = "key " + mask + " of " + columns;
+                if (mask >= 1 && mask < 1 << columns) {
+                    Check.due(said, 1, () -> x.key(t, asked));
+                    Check.due(said + " again", 0, () -> x.key(t, asked));
+                } else {
+                    Check.thrown(said, IllegalArgumentException.class, () -> x.key(t, asked));
+                }
+            }
+        }
+        FactKeeper x = new FactKeeper();
+        x.table(4);
+        Check.thrown("the least", IllegalArgumentException.class, () -> x.key(0, Integer.MIN_VALUE));
+        Check.thrown("the most", IllegalArgumentException.class, () -> x.key(0, Integer.MAX_VALUE));
+    }
+
+    // "a 4th KEY of the TABLE: IndexOutOfBoundsException"
+    private static void threeKeysOfEachTable() {
+        FactKeeper x = new FactKeeper();
+        for (int t = 0; t < 3; t++) {
+            x.table(3);
+            int table = t;
+            for (int mask = 1; mask <= 3; mask++) {
+                int asked = mask;
+                Check.due("key " + mask + " of table " + t, 1, () -> x.key(table, asked));
+            }
+            for (int mask = 4; mask <= 7; mask++) {
+                int asked = mask;
+                Check.thrown("4th", IndexOutOfBoundsException.class, () -> x.key(table, asked));
+            }
+            Check.thrown("no column before the 4th", IllegalArgumentException.class, () -> x.key(table, 8));
+            for (int mask = 1; mask <= 3; mask++) {
+                int asked = mask;
+                Check.due("it was one", 0, () -> x.key(table, asked));
+            }
+        }
+        Check.behind(x, 0, 1, 1, 1);
+        Check.due("no key of another table", 1, () -> x.add(1, 0));
+        Check.values(x, 2, 2, 1);
+        Check.due("a 4th that was refused is none", 2, () -> x.add(0, 0));
+    }
+
+    // "no two FACTS that are there have the same in all of them. Two have: IllegalStateException"
+    private static void keyOfTwoThatHaveTheSame() {
+        FactKeeper x = new FactKeeper();
+        x.table(2);
+        x.table(2);
+        Check.behind(x, 0, 1, 1);
+        Check.behind(x, 0, 2, 2);
+        Check.behind(x, 0, 1, 3);
+        Check.behind(x, 1, 2, 3);
+        Check.thrown("the first and the last", IllegalStateException.class, () -> x.key(0, 1));
+        Check.due("not in the other column", 1, () -> x.key(0, 2));
+        Check.due("not in both", 1, () -> x.key(0, 3));
+        Check.thrown("a refused key is none", IllegalStateException.class, () -> x.key(0, 1));
+        Check.behind(x, 0, 1, 4);
+        Check.values(x, 1, 1);
+        x.remove(0, 3, 0);
+        Check.thrown("two of three", IllegalStateException.class, () -> x.key(0, 1));
+        Check.values(x, 1, 3);
+        x.remove(0, 3, 0);
+        Check.due("one is left", 1, () -> x.key(0, 1));
+        Check.values(x, 1, 9);
+        Check.thrown("the one that is left", UnsupportedOperationException.class, () -> x.add(0, 0));
+        FactKeeper y = new FactKeeper();
+        y.table(1);
+        Check.due("of an empty table", 1, () -> y.key(0, 1));
     }
 
     private static void keyAfterBack() {

@@ -5,12 +5,18 @@ public final class TimesTest {
     public static void main(String[] args) {
         mark();
         back();
+        backToTheLatestMarkAlone();
         backOverBack();
+        backWithoutChanges();
+        backAsksNoKeys();
         backInIndexes();
         backManyTimes();
         purge();
+        purgeThoseThatDiedByThen();
         purgeAndIndexes();
         changes();
+        changesBetween();
+        found();
         Check.finish("TimesTest");
     }
 
@@ -54,6 +60,72 @@ public final class TimesTest {
         Check.due("it stays", 3, () -> x.count(10));
         x.mark();
         Check.due("only what came since", 0, () -> x.back(true));
+    }
+
+    // "The latest MARK goes ..; taken back, all changes since are turned, the latest first"
+    private static void backToTheLatestMarkAlone() {
+        FactKeeper x = new FactKeeper();
+        x.table(1);
+        x.add(0, 0);
+        x.mark();
+        x.add(0, 0);
+        x.add(0, 0);
+        x.mark();
+        x.add(0, 0);
+        Check.due("one since the latest", 1, () -> x.back(true));
+        Check.due("it went", 5, () -> x.fact(3, 6));
+        Check.due("three are there", 3, () -> x.count(10));
+        x.mark();
+        x.remove(0, 0, 0);
+        Check.due("not taken back", 0, () -> x.back(false));
+        Check.due("one mark", 1, () -> x.count(8));
+        // Since the first: 1, 2 and 3 came, 3 went, 0 went.
+        Check.due("five since the first", 5, () -> x.back(true));
+        Check.due("time", 11, () -> x.count(2));
+        Check.due("one is there", 1, () -> x.count(10));
+        Check.due("which stands for the first", 4, () -> x.find(0, 0, -1));
+        Check.due("turned first", 7, () -> x.fact(4, 5));
+        Check.due("then what stands for the last", 8, () -> x.fact(5, 5));
+        Check.due("which goes again", 9, () -> x.fact(5, 6));
+        Check.due("then the one before", 10, () -> x.fact(2, 6));
+        Check.due("then the one before that", 11, () -> x.fact(1, 6));
+        Check.due("no mark", 0, () -> x.count(8));
+    }
+
+    private static void backWithoutChanges() {
+        FactKeeper x = new FactKeeper();
+        x.table(1);
+        x.add(0, 0);
+        for (int i = 0; i < 8; i++) {
+            x.mark();
+        }
+        for (int i = 7; i >= 0; i--) {
+            int left = i;
+            Check.due("nothing to turn", 0, () -> x.back(left % 2 == 0));
+            Check.due("marks left", left, () -> x.count(8));
+        }
+        Check.thrown("none is left", IllegalStateException.class, () -> x.back(true));
+        Check.thrown("none is left", IllegalStateException.class, () -> x.back(false));
+        Check.due("time", 1, () -> x.count(2));
+    }
+
+    // "a new FACT with the same comes directly behind it in the ROW, and stands for it (KEYS are not asked)"
+    private static void backAsksNoKeys() {
+        FactKeeper x = new FactKeeper();
+        x.table(2);
+        Check.behind(x, 0, 1, 5);
+        Check.behind(x, 0, 1, 6);
+        x.mark();
+        Check.values(x, 1, 5);
+        x.remove(0, 3, 0);
+        x.key(0, 1);
+        Check.due("back", 1, () -> x.back(true));
+        Check.due("two have the same", 2, () -> x.many(0, 1, -1));
+        Check.due("directly behind it", 1, () -> x.fact(2, 7));
+        Check.due("the other is behind both", 2, () -> x.fact(1, 7));
+        Check.due("with the same", 5, () -> x.fact(2, 1));
+        Check.due("of its table", 0, () -> x.fact(2, 4));
+        Check.thrown("add asks the key", UnsupportedOperationException.class, () -> x.add(0, 0));
     }
 
     private static void backOverBack() {
@@ -151,6 +223,31 @@ public final class TimesTest {
         Check.due("numbers go on", 4, () -> Check.behind(x, 0, 9));
     }
 
+    // "FACTS that DIED at T or before are not kept any more. Answers how many these were."
+    private static void purgeThoseThatDiedByThen() {
+        for (int until = 0; until <= 9; until++) {
+            FactKeeper x = new FactKeeper();
+            x.table(1);
+            x.table(1);
+            for (int i = 0; i < 5; i++) {
+                x.add(i % 2, 0);
+            }
+            // At 6, 7 and 8 the facts 0, 2 and 4 die, at 9 the fact 1.
+            x.remove(0, 0, 1);
+            x.remove(1, 0, 0);
+            int at = until;
+            int gone = Math.max(0, until - 5);
+            Check.due("purge " + until, gone, () -> x.purge(at));
+            Check.due("kept", 5 - gone, () -> x.count(3));
+            Check.due("horizon", until, () -> x.count(4));
+            Check.due("the time stays", 9, () -> x.count(2));
+            Check.due("the same again", 0, () -> x.purge(at));
+            Check.due("the others", 4 - gone, () -> x.purge(-1));
+            Check.due("horizon now", 9, () -> x.count(4));
+            Check.due("one is kept", 0, () -> x.fact(3, 7));
+        }
+    }
+
     private static void purgeAndIndexes() {
         FactKeeper x = new FactKeeper();
         x.table(1);
@@ -199,5 +296,78 @@ public final class TimesTest {
         Check.due("found stays", -2, () -> x.found(4));
         Check.due("the same times", 0, () -> x.changes(0, -1, 9));
         Check.thrown("none", IndexOutOfBoundsException.class, () -> x.found(0));
+    }
+
+    // "its FACTS that ARE THERE at the second time, not at the first; then those at the first, not at the second"
+    private static void changesBetween() {
+        FactKeeper x = new FactKeeper();
+        x.table(1);
+        Check.due("of an empty table", 0, () -> x.changes(0, 0, 0));
+        for (int i = 0; i < 4; i++) {
+            Check.behind(x, 0, i);
+        }
+        Check.values(x, 1);
+        x.remove(0, 1, 0);
+        Check.values(x, 3);
+        x.remove(0, 1, 0);
+        // There were 0 from 1 on, 1 from 2 to 5, 2 from 3 on, 3 from 4 to 6.
+        int[][] there = {{}, {0}, {0, 1}, {0, 1, 2}, {0, 1, 2, 3}, {0, 2, 3}, {0, 2}};
+        for (int first = 0; first < there.length; first++) {
+            for (int second = 0; second < there.length; second++) {
+                changesOf(x, first, second, there);
+            }
+        }
+    }
+
+    private static void changesOf(FactKeeper x, int first, int second, int[][] there) {
+        String said = "changes " + first + ", " + second;
+        int[] due = new int[8];
+        int many = 0;
+        for (int number = 0; number < 4; number++) {
+            if (has(there[second], number) && !has(there[first], number)) {
+                due[many++] = number;
+            }
+        }
+        for (int number = 0; number < 4; number++) {
+            if (has(there[first], number) && !has(there[second], number)) {
+                due[many++] = -1 - number;
+            }
+        }
+        Check.due(said, many, () -> x.changes(0, first, second));
+        for (int i = 0; i < many; i++) {
+            int asked = i;
+            Check.due(said + ", found " + i, due[i], () -> x.found(asked));
+        }
+        int behind = many;
+        Check.thrown(said + ", no more", IndexOutOfBoundsException.class, () -> x.found(behind));
+    }
+
+    private static boolean has(int[] some, int one) {
+        for (int other : some) {
+            if (other == one) {
+                return true;
+            }
+        }
+        return false;
+    }
+
+    // "there is none: IndexOutOfBoundsException"
+    private static void found() {
+        FactKeeper x = new FactKeeper();
+        x.table(1);
+        for (int i : new int[] {-1, 0, 1, Integer.MIN_VALUE, Integer.MAX_VALUE}) {
+            Check.thrown("before any changes, " + i, IndexOutOfBoundsException.class, () -> x.found(i));
+        }
+        x.add(0, 0);
+        x.add(0, 0);
+        x.changes(0, 0, -1);
+        Check.due("the first", 0, () -> x.found(0));
+        Check.due("the last", 1, () -> x.found(1));
+        for (int i : new int[] {-1, 2, Integer.MIN_VALUE, Integer.MAX_VALUE}) {
+            Check.thrown("none is the " + i + "-th", IndexOutOfBoundsException.class, () -> x.found(i));
+        }
+        x.changes(0, 1, 2);
+        Check.due("of the latest changes", 1, () -> x.found(0));
+        Check.thrown("not of those before", IndexOutOfBoundsException.class, () -> x.found(1));
     }
 }
