@@ -5,6 +5,9 @@ public final class ModelTest {
     private static final int RUNS = 1500;
     // An object is promised 512 calls: 22 counts end a run, and a step that begins before takes at most 29.
     private static final int CALLS = 512 - 22 - 29;
+    private static final int[] FAR = {
+        Integer.MIN_VALUE, Integer.MIN_VALUE + 1, Integer.MAX_VALUE, Integer.MAX_VALUE - 1, 1 << 16, -1 << 16
+    };
 
     private final Random random;
     private final FactKeeper keeper = new FactKeeper();
@@ -66,22 +69,42 @@ public final class ModelTest {
         return i;
     }
 
+    private boolean isFar() {
+        return random.nextInt(400) == 0;
+    }
+
+    private int far() {
+        return FAR[random.nextInt(FAR.length)];
+    }
+
     private int number(int most) {
+        if (isFar()) {
+            return far();
+        }
         return random.nextInt(40) == 0 ? random.nextInt(most + 6) - 3 : random.nextInt(most + 1);
     }
 
     private int someTable() {
+        if (isFar()) {
+            return far();
+        }
         int tables = model.count(1);
         return random.nextInt(50) == 0 ? random.nextInt(16) - 2 : random.nextInt(tables);
     }
 
     private int mask() {
+        if (isFar()) {
+            return far();
+        }
         return random.nextInt(40) == 0 ? random.nextInt(24) - 4 : random.nextInt(16);
     }
 
     private int at() {
         if (random.nextInt(3) == 0) {
             return -1;
+        }
+        if (isFar()) {
+            return far();
         }
         int horizon = model.count(4);
         int time = model.count(2);
@@ -113,7 +136,7 @@ public final class ModelTest {
                 }
             }
             case 3, 4, 5 -> {
-                int v = value();
+                int v = random.nextInt(20) == 0 ? far() : value();
                 same(said + "value " + small + " " + v, () -> keeper.value(small, v), () -> model.value(small, v));
             }
             case 6 -> same(said + "add " + t + " " + one, () -> keeper.add(t, one), () -> model.add(t, one));

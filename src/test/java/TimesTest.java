@@ -187,6 +187,12 @@ public final class TimesTest {
         }
         Check.due("there", 100, () -> x.count(10));
         Check.due("numbers", 6600, () -> x.add(0, 0));
+        // What stood for one that is not kept any more stands for none that comes later.
+        x.mark();
+        Check.due("one comes", 6601, () -> x.add(0, 0));
+        Check.due("one is turned", 1, () -> x.back(true));
+        Check.due("the one that came went", x.count(2), () -> x.fact(6601, 6));
+        Check.due("all others are there", 101, () -> x.count(10));
     }
 
     private static void purge() {
