@@ -10,6 +10,7 @@ public final class TimesTest {
         backWithoutChanges();
         backAsksNoKeys();
         backInIndexes();
+        backAndPurgeInEveryColumn();
         backManyTimes();
         purge();
         purgeThoseThatDiedByThen();
@@ -170,6 +171,37 @@ public final class TimesTest {
         Check.due("in the row's order", 3, () -> x.next(0));
         Check.due("in the row's order", 5, () -> x.next(0));
         Check.due("none", -1, () -> x.next(0));
+    }
+
+    private static void backAndPurgeInEveryColumn() {
+        for (int columns = 1; columns <= 4; columns++) {
+            FactKeeper x = new FactKeeper();
+            x.table(columns);
+            for (int k = 0; k < columns; k++) {
+                x.index(0, k);
+            }
+            Check.behind(x, 0, 1, 2, 3, 4);
+            Check.behind(x, 0, 5, 6, 7, 8);
+            x.mark();
+            x.remove(0, 0, 1);
+            Check.due("back of " + columns, 2, () -> x.back(true));
+            for (int k = 0; k < 4; k++) {
+                int column = k;
+                Check.due("the same in column " + k, k < columns ? 5 + k : 0, () -> x.fact(2, column));
+            }
+            oneInEachIndex(x, columns, 2);
+            Check.due("purge of " + columns, 2, () -> x.purge(-1));
+            oneInEachIndex(x, columns, 1);
+        }
+    }
+
+    private static void oneInEachIndex(FactKeeper x, int columns, int lookedAt) {
+        Check.values(x, 5, 6, 7, 8);
+        for (int k = 0; k < columns; k++) {
+            int mask = 1 << k;
+            Check.due("find by column " + k, 2, () -> x.find(0, mask, -1));
+            Check.due("looked at", lookedAt, () -> x.count(5));
+        }
     }
 
     /** More changes in all than can lie between marks: those without a mark before them are forgotten. */
